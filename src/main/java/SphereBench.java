@@ -394,33 +394,6 @@ public final class SphereBench {
         return 0;
     }
 
-    /** The greatest whole number whose square is not above v. */
-    private static long rootOf(long v) {
-        if (v <= 0) {
-            return 0;
-        }
-        long guess = 1;
-        for (int i = 0; i < 31 && guess * guess < v; i++) {
-            guess *= 2;
-        }
-        for (int i = 0; i < 64 && guess > 0; i++) {
-            long next = (guess + v / guess) / 2;
-            if (next >= guess) {
-                break;
-            }
-            guess = next;
-        }
-        return guess;
-    }
-
-    private static long floorOf(long above, long below) {
-        return below > 0 ? Math.floorDiv(above, below) : 0;
-    }
-
-    private static long ceilingOf(long above, long below) {
-        return -floorOf(-above, below);
-    }
-
     /** No lines or up to four lines of as many numbers; a number outside reads 0 and is never set. */
     private static final class Grid {
         private int lines = 0;
@@ -452,8 +425,8 @@ public final class SphereBench {
         }
 
         void copy(Grid other) {
-            open(other.lines);
-            lay(other, 0);
+            lines = other.lines;
+            System.arraycopy(other.numbers, 0, numbers, 0, numbers.length);
         }
 
         /** Another grid's numbers, with its first one at line and place corner. */
@@ -621,10 +594,10 @@ public final class SphereBench {
 
     /** A TABLE with what follows from it. */
     private static final class Lattice {
-        private final Grid form = new Grid();
-        private final Grid co = new Grid();
-        private final long[] facts = new long[FACTS];
-        private long worth = 0;
+        final Grid form = new Grid();
+        final Grid co = new Grid();
+        final long[] facts = new long[FACTS];
+        long worth = 0;
 
         int ways() {
             return form.lines();
@@ -654,8 +627,8 @@ public final class SphereBench {
     }
 
     /**
-     * ROWS of a box, each one long: its SIZE above its place in the box. As the box is counted by its first
-     * number last, the order of the longs is that of SIZES and then of numbers.
+     * ROWS of a box, each one long: its SIZE above its place in the box. As the places are counted with the last
+     * number the fastest, the order of the longs is that of SIZES and then of numbers.
      */
     private static final class Book {
         private static final int PLACE_BITS = 19;
@@ -971,6 +944,33 @@ public final class SphereBench {
             if (into.count() >= MOST_NEAREST || !into.note(found, x)) {
                 overfull = true;
             }
+        }
+
+        /** The greatest whole number whose square is not above v. */
+        private static long rootOf(long v) {
+            if (v <= 0) {
+                return 0;
+            }
+            long guess = 1;
+            for (int i = 0; i < 31 && guess * guess < v; i++) {
+                guess *= 2;
+            }
+            for (int i = 0; i < 64 && guess > 0; i++) {
+                long next = (guess + v / guess) / 2;
+                if (next >= guess) {
+                    break;
+                }
+                guess = next;
+            }
+            return guess;
+        }
+
+        private static long floorOf(long above, long below) {
+            return below > 0 ? Math.floorDiv(above, below) : 0;
+        }
+
+        private static long ceilingOf(long above, long below) {
+            return -floorOf(-above, below);
         }
     }
 

@@ -232,7 +232,8 @@ public final class SphereBenchAgainstModel {
                 break;
             }
             case 25: case 26: case 27: {
-                int q = dice.nextInt(10) == 0 ? ODD[dice.nextInt(ODD.length)] : 1 + dice.nextInt(dice.nextBoolean() ? 4 : 60);
+                int most = dice.nextBoolean() ? 4 : 60;
+                int q = dice.nextInt(10) == 0 ? ODD[dice.nextInt(ODD.length)] : 1 + dice.nextInt(most);
                 int[] p = {pickPlace(dice), pickPlace(dice), pickPlace(dice), pickPlace(dice)};
                 long want = m.nearest(a, q, p);
                 SPENT_SEEN[4] += want == -2 ? 1 : 0;

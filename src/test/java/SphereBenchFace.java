@@ -74,7 +74,8 @@ public final class SphereBenchFace {
         if (!face.equals(due)) {
             fault("the face is " + face + ", due is " + due);
         }
-        if (!Modifier.isFinal(SphereBench.class.getModifiers()) || !Modifier.isPublic(SphereBench.class.getModifiers())) {
+        int kind = SphereBench.class.getModifiers();
+        if (!Modifier.isFinal(kind) || !Modifier.isPublic(kind)) {
             fault("the class isn't public and final");
         }
     }

@@ -205,7 +205,8 @@ public final class SphereBenchPromises {
         due("first corner below 0", take(x, new int[][] {{-1}}), -21);
         due("flat second corner", take(x, new int[][] {{1, 1, 0}, {1, 1, 0}, {0, 0, 1}}), -22);
         due("flat third corner", take(x, new int[][] {{2, 1, 1}, {1, 2, -1}, {1, -1, 2}}), -23);
-        due("fourth corner below 0", take(x, new int[][] {{1, 0, 0, 2}, {0, 1, 0, 0}, {0, 0, 1, 0}, {2, 0, 0, 3}}), -24);
+        int[][] below = {{1, 0, 0, 2}, {0, 1, 0, 0}, {0, 0, 1, 0}, {2, 0, 0, 3}};
+        due("fourth corner below 0", take(x, below), -24);
         due("told(0)", x.told(0), 0);
         due("the greatest table", take(x, new int[][] {{999, -998}, {-998, 999}}), 0);
         dueTable(x, 0, new int[][] {{999, -998}, {-998, 999}});
@@ -240,9 +241,10 @@ public final class SphereBenchPromises {
 
     private static void promise7About() {
         promise = 7;
-        SphereBench x = bench(D4, BENT, MORE_BENT, new int[][] {{2, 0}, {0, 3}});
+        int[][] flat = {{999, 0, 0}, {0, 1, 0}, {0, 0, 1}};
+        SphereBench x = bench(D4, BENT, MORE_BENT, new int[][] {{2, 0}, {0, 3}}, flat);
         long[][] want = {{4, 4, 1, 2, 24, 1, 1152}, {2, 1, 0, 1, 4, 0, 8}, {2, 1, 0, -2, -2, -2, -2},
-            {2, 6, 0, 2, 2, 0, 4}};
+            {2, 6, 0, 2, 2, 0, 4}, {3, 999, 0, 1, 4, 0, -2}};
         for (int time = 0; time < 2; time++) {
             for (int a = 0; a < want.length; a++) {
                 for (int what = 0; what < 7; what++) {
@@ -252,7 +254,7 @@ public final class SphereBenchPromises {
         }
         due("about(0, 7)", x.about(0, 7), -1);
         due("about(0, -1)", x.about(0, -1), -1);
-        due("about(4, 0)", x.about(4, 0), -1);
+        due("about(5, 0)", x.about(5, 0), -1);
         due("about(-1, 0)", x.about(-1, 0), -1);
         for (int far : FAR) {
             due("about(far, 0)", x.about(far, 0), -1);
@@ -778,6 +780,12 @@ public final class SphereBenchPromises {
             due("size(" + i + "), the least there is", x.size(i), 1);
         }
         due("the lower number first", x.row(0, 0) < x.row(1, 0), true);
+        due("the box by the nearest whole numbers", x.nearest(3, 60, 59, 59, 0, 0), 1);
+        due("size(0)", x.size(0), 21 * 21 + 26 * 26);
+        due("the box by a half upwards", x.nearest(3, 6, 3, 2, 0, 0), 2);
+        due("size(1)", x.size(1), 2 * 2 + 3 * 3);
+        due("too wide a box by a half upwards", x.nearest(3, 6, 3, 4, 0, 0), -2);
+        due("told(2)", x.told(2), 2);
     }
 
     private static void promise23Told() {
