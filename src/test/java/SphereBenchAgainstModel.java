@@ -1,104 +1,93 @@
-import java.math.BigInteger;
-import java.util.ArrayList;
-import java.util.List;
 import java.util.Random;
 
-/**
- * Long runs of calls, the same each time, against a model that follows the document's words one by one: it goes
- * through whole boxes, counts with BigInteger and keeps nothing that it could work out anew.
- */
+/** Long runs of calls, the same each time, against a model that follows the document's words one by one. */
 public final class SphereBenchAgainstModel {
-    private static final int RUNS = 260;
-    private static final int CALLS = 512;
+    private static final int RUNS = 400;
     private static final int[] ODD = {Integer.MIN_VALUE, Integer.MIN_VALUE + 1, -1000001, -6001, -6000, -1000, -999,
         -2, -1, 0, 1, 2, 3, 4, 5, 19, 20, 21, 60, 61, 999, 1000, 6000, 6001, 1000000, 1000001,
         Integer.MAX_VALUE - 1, Integer.MAX_VALUE};
 
-    private static int wrong = 0;
+    /** What a step of a run takes at the most: a sheet of four lines, all its numbers, and take(). */
+    private static final int MOST_AT_ONCE = 18;
+    private static final int MOST_FAULTS = 20;
+
     private static final int[] SPENT_SEEN = new int[5];
 
     public static void main(String[] args) {
         int runs = args.length > 0 ? Integer.parseInt(args[0]) : RUNS;
         long seed = args.length > 1 ? Long.parseLong(args[1]) : 1;
-        for (int run = 0; run < runs && wrong < 20; run++) {
-            oneRun(run, new Random(seed * 1000003 + run));
+        for (int run = 0; run < runs && Checks.faults() < MOST_FAULTS; run++) {
+            Random dice = new Random(seed * 1000003 + run);
+            Checks.test("run " + run, () -> oneRun(dice));
         }
         System.out.println("-2 seen: rows " + SPENT_SEEN[0] + ", about " + SPENT_SEEN[1] + ", same " + SPENT_SEEN[2]
             + ", denser " + SPENT_SEEN[3] + ", nearest " + SPENT_SEEN[4]);
-        System.out.println(wrong == 0 ? "all answers are as the model's" : wrong + " answers are not as the model's");
-        if (wrong != 0) {
-            System.exit(1);
-        }
+        Checks.end();
     }
 
-    private static void due(int run, String call, long got, long want) {
-        if (got != want) {
-            wrong++;
-            System.out.println("run " + run + ": " + call + " answered " + got + ", the model says " + want);
-        }
-    }
-
-    private static void oneRun(int run, Random dice) {
-        SphereBench x = new SphereBench();
+    private static void oneRun(Random dice) {
+        Bench x = new Bench();
         Model m = new Model();
-        int[] left = {CALLS};
-        while (left[0] > 0 && wrong < 20) {
+        while (x.left() >= MOST_AT_ONCE && Checks.faults() < MOST_FAULTS) {
             int what = dice.nextInt(30);
             if (what < 6) {
-                writeTable(run, x, m, dice, left);
+                writeTable(x, m, dice);
             } else {
-                oneCall(run, what, x, m, dice);
-                left[0]--;
+                oneCall(what, x, m, dice);
             }
-            if (dice.nextInt(40) == 0) {
-                compareState(run, x, m);
-            }
+            readSome(x, m, dice, Math.min(x.left(), dice.nextInt(3)));
         }
-        compareState(run, x, m);
+        readSome(x, m, dice, x.left());
     }
 
-    /** All that can be read; these calls change nothing, so the model need not count them. */
-    private static void compareState(int run, SphereBench x, Model m) {
-        for (int i = -1; i < 5; i++) {
-            due(run, "told(" + i + ")", x.told(i), m.told(i));
-            for (int k = -1; k < 5; k++) {
-                due(run, "cellOf(" + i + ", " + k + ")", x.cellOf(i, k), m.cellOf(i, k));
-                due(run, "way(" + i + ", " + k + ")", x.way(i, k), m.way(i, k));
+    /** Any of what can be read, mostly inside of it. */
+    private static void readSome(Bench x, Model m, Random dice, int calls) {
+        for (int call = 0; call < calls; call++) {
+            int i = dice.nextInt(6) - 1;
+            int k = dice.nextInt(6) - 1;
+            int a = dice.nextInt(m.tables.size() + 2) - 1;
+            int r = dice.nextInt(5) == 0 ? m.list.size() - 2 + i : dice.nextInt(m.list.size() + 2) - 1;
+            switch (dice.nextInt(12)) {
+                case 0:
+                    Checks.due("told(" + i + ")", x.told(i), m.told(i));
+                    break;
+                case 1: case 2:
+                    Checks.due("cellOf(" + i + ", " + k + ")", x.cellOf(i, k), m.cellOf(i, k));
+                    break;
+                case 3: case 4:
+                    Checks.due("way(" + i + ", " + k + ")", x.way(i, k), m.way(i, k));
+                    break;
+                case 5:
+                    Checks.due("size(" + r + ")", x.size(r), m.size(r));
+                    break;
+                case 6:
+                    Checks.due("wayWorth()", x.wayWorth(), m.wayWorth());
+                    break;
+                case 7:
+                    Checks.due("index()", x.index(), m.index());
+                    break;
+                case 8: case 9:
+                    Checks.due("table(" + a + ", " + i + ", " + k + ")", x.table(a, i, k), m.table(a, i, k));
+                    break;
+                default:
+                    Checks.due("row(" + r + ", " + k + ")", x.row(r, k), m.row(r, k));
+                    break;
             }
         }
-        for (int i = -1; i <= m.list.size(); i++) {
-            due(run, "size(" + i + ")", x.size(i), m.size(i));
-            for (int k = -1; k < 5; k++) {
-                due(run, "row(" + i + ", " + k + ")", x.row(i, k), m.row(i, k));
-            }
-        }
-        for (int a = -1; a <= m.tables.size(); a++) {
-            for (int i = -1; i < 5; i++) {
-                for (int k = -1; k < 5; k++) {
-                    due(run, "table(" + a + ", " + i + ", " + k + ")", x.table(a, i, k), m.table(a, i, k));
-                }
-            }
-        }
-        due(run, "wayWorth()", x.wayWorth(), m.wayWorth());
-        due(run, "index()", x.index(), m.index());
     }
 
-    private static void writeTable(int run, SphereBench x, Model m, Random dice, int[] left) {
+    private static void writeTable(Bench x, Model m, Random dice) {
         int n = 1 + dice.nextInt(4);
         int[][] table = dice.nextInt(12) == 0 ? anyNumbers(dice, n) : someTable(dice, n);
-        due(run, "sheet(" + n + ")", x.sheet(n) ? 1 : 0, m.sheet(n) ? 1 : 0);
-        left[0]--;
+        Checks.due("sheet(" + n + ")", x.sheet(n), m.sheet(n));
         for (int i = 0; i < n; i++) {
             for (int k = 0; k < n; k++) {
-                boolean got = x.cell(i, k, table[i][k]);
-                due(run, "cell(" + i + ", " + k + ", " + table[i][k] + ")", got ? 1 : 0,
-                    m.cell(i, k, table[i][k]) ? 1 : 0);
-                left[0]--;
+                int v = table[i][k];
+                Checks.due("cell(" + i + ", " + k + ", " + v + ")", x.cell(i, k, v), m.cell(i, k, v));
             }
         }
         if (dice.nextInt(5) > 0) {
-            due(run, "take()", x.take(), m.take());
-            left[0]--;
+            Checks.due("take()", x.take(), m.take());
         }
     }
 
@@ -179,7 +168,7 @@ public final class SphereBenchAgainstModel {
         return dice.nextInt(15) == 0 ? ODD[dice.nextInt(ODD.length)] : dice.nextInt(12001) - 6000;
     }
 
-    private static void oneCall(int run, int what, SphereBench x, Model m, Random dice) {
+    private static void oneCall(int what, Bench x, Model m, Random dice) {
         int a = pick(dice, m.tables.size());
         int b = pick(dice, m.tables.size());
         switch (what) {
@@ -187,48 +176,48 @@ public final class SphereBenchAgainstModel {
                 int fact = dice.nextInt(10) == 0 ? ODD[dice.nextInt(ODD.length)] : dice.nextInt(7);
                 long want = m.about(a, fact);
                 SPENT_SEEN[1] += want == -2 ? 1 : 0;
-                due(run, "about(" + a + ", " + fact + ")", x.about(a, fact), want);
+                Checks.due("about(" + a + ", " + fact + ")", x.about(a, fact), want);
                 break;
             }
             case 10: case 11: case 12: {
                 int s = pickSize(dice);
                 long want = m.rows(a, s);
                 SPENT_SEEN[0] += want == -2 ? 1 : 0;
-                due(run, "rows(" + a + ", " + s + ")", x.rows(a, s), want);
+                Checks.due("rows(" + a + ", " + s + ")", x.rows(a, s), want);
                 break;
             }
             case 13: case 14: {
                 int s = pickSize(dice);
-                due(run, "theta(" + a + ", " + s + ")", x.theta(a, s), m.theta(a, s));
+                Checks.due("theta(" + a + ", " + s + ")", x.theta(a, s), m.theta(a, s));
                 break;
             }
             case 15:
-                due(run, "reduce(" + a + ")", x.reduce(a), m.reduce(a));
+                Checks.due("reduce(" + a + ")", x.reduce(a), m.reduce(a));
                 break;
             case 16: case 17: case 18: {
                 long want = m.same(a, b);
                 SPENT_SEEN[2] += want == -2 ? 1 : 0;
-                due(run, "same(" + a + ", " + b + ")", x.same(a, b), want);
+                Checks.due("same(" + a + ", " + b + ")", x.same(a, b), want);
                 break;
             }
             case 19:
-                due(run, "dual(" + a + ")", x.dual(a), m.dual(a));
+                Checks.due("dual(" + a + ")", x.dual(a), m.dual(a));
                 break;
             case 20:
-                due(run, "sum(" + a + ", " + b + ")", x.sum(a, b), m.sum(a, b));
+                Checks.due("sum(" + a + ", " + b + ")", x.sum(a, b), m.sum(a, b));
                 break;
             case 21: {
                 int by = dice.nextInt(3) == 0 ? ODD[dice.nextInt(ODD.length)] : 1 + dice.nextInt(9);
-                due(run, "scale(" + a + ", " + by + ")", x.scale(a, by), m.scale(a, by));
+                Checks.due("scale(" + a + ", " + by + ")", x.scale(a, by), m.scale(a, by));
                 break;
             }
             case 22:
-                due(run, "within(" + a + ")", x.within(a), m.within(a));
+                Checks.due("within(" + a + ")", x.within(a), m.within(a));
                 break;
             case 23: case 24: {
                 long want = m.denser(a, b);
                 SPENT_SEEN[3] += want == -2 ? 1 : 0;
-                due(run, "denser(" + a + ", " + b + ")", x.denser(a, b), want);
+                Checks.due("denser(" + a + ", " + b + ")", x.denser(a, b), want);
                 break;
             }
             case 25: case 26: case 27: {
@@ -237,7 +226,7 @@ public final class SphereBenchAgainstModel {
                 int[] p = {pickPlace(dice), pickPlace(dice), pickPlace(dice), pickPlace(dice)};
                 long want = m.nearest(a, q, p);
                 SPENT_SEEN[4] += want == -2 ? 1 : 0;
-                due(run, "nearest(" + a + ", " + q + ", " + p[0] + ", " + p[1] + ", " + p[2] + ", " + p[3] + ")",
+                Checks.due("nearest(" + a + ", " + q + ", " + p[0] + ", " + p[1] + ", " + p[2] + ", " + p[3] + ")",
                     x.nearest(a, q, p[0], p[1], p[2], p[3]), want);
                 break;
             }
@@ -245,595 +234,21 @@ public final class SphereBenchAgainstModel {
                 int i = pick(dice, 4);
                 int k = pick(dice, 4);
                 int v = dice.nextBoolean() ? ODD[dice.nextInt(ODD.length)] : dice.nextInt(9) - 4;
-                due(run, "cell(" + i + ", " + k + ", " + v + ")", x.cell(i, k, v) ? 1 : 0, m.cell(i, k, v) ? 1 : 0);
-                due(run, "cellOf(" + i + ", " + k + ")", x.cellOf(i, k), m.cellOf(i, k));
+                Checks.due("cell(" + i + ", " + k + ", " + v + ")", x.cell(i, k, v), m.cell(i, k, v));
+                Checks.due("cellOf(" + i + ", " + k + ")", x.cellOf(i, k), m.cellOf(i, k));
                 break;
             }
             default: {
                 int i = ODD[dice.nextInt(ODD.length)];
                 int k = ODD[dice.nextInt(ODD.length)];
-                due(run, "sheet(" + i + ")", x.sheet(i) ? 1 : 0, m.sheet(i) ? 1 : 0);
-                due(run, "row(" + i + ", " + k + ")", x.row(i, k), m.row(i, k));
-                due(run, "size(" + i + ")", x.size(i), m.size(i));
-                due(run, "way(" + i + ", " + k + ")", x.way(i, k), m.way(i, k));
-                due(run, "told(" + i + ")", x.told(i), m.told(i));
-                due(run, "take()", x.take(), m.take());
+                Checks.due("sheet(" + i + ")", x.sheet(i), m.sheet(i));
+                Checks.due("row(" + i + ", " + k + ")", x.row(i, k), m.row(i, k));
+                Checks.due("size(" + i + ")", x.size(i), m.size(i));
+                Checks.due("way(" + i + ", " + k + ")", x.way(i, k), m.way(i, k));
+                Checks.due("told(" + i + ")", x.told(i), m.told(i));
+                Checks.due("take()", x.take(), m.take());
                 break;
             }
-        }
-    }
-
-    /** The document, word by word. */
-    private static final class Model {
-        private int[][] sheet = {{1}};
-        private final List<int[][]> tables = new ArrayList<>();
-        private List<int[]> list = new ArrayList<>();
-        private List<Long> listSizes = new ArrayList<>();
-        private int[][] way = new int[0][];
-        private List<int[]> up = new ArrayList<>();
-        private int tries;
-        private int found;
-        private boolean spent;
-        private int[][] foundWay;
-
-        boolean sheet(int n) {
-            if (n < 1 || n > 4) {
-                return false;
-            }
-            sheet = new int[n][n];
-            return true;
-        }
-
-        boolean cell(int i, int k, int v) {
-            if (cellOf(i, k) == -100000 || v < -999 || v > 999) {
-                return false;
-            }
-            sheet[i][k] = v;
-            return true;
-        }
-
-        int cellOf(int i, int k) {
-            return of(sheet, i, k);
-        }
-
-        private static int of(int[][] t, int i, int k) {
-            return i < 0 || k < 0 || i >= t.length || k >= t.length ? -100000 : t[i][k];
-        }
-
-        int take() {
-            if (tables.size() == 20) {
-                return -1;
-            }
-            for (int i = 0; i < sheet.length; i++) {
-                for (int k = 0; k < sheet.length; k++) {
-                    if (sheet[i][k] != sheet[k][i]) {
-                        return -10 - i;
-                    }
-                }
-            }
-            for (int k = 1; k <= sheet.length; k++) {
-                BigInteger[][] corner = new BigInteger[k][k];
-                for (int i = 0; i < k; i++) {
-                    for (int j = 0; j < k; j++) {
-                        corner[i][j] = BigInteger.valueOf(sheet[i][j]);
-                    }
-                }
-                if (determinant(corner).signum() <= 0) {
-                    return -20 - k;
-                }
-            }
-            return add(big(sheet));
-        }
-
-        private static BigInteger[][] big(int[][] t) {
-            BigInteger[][] b = new BigInteger[t.length][t.length];
-            for (int i = 0; i < t.length; i++) {
-                for (int k = 0; k < t.length; k++) {
-                    b[i][k] = BigInteger.valueOf(t[i][k]);
-                }
-            }
-            return b;
-        }
-
-        private int add(BigInteger[][] t) {
-            int[][] small = new int[t.length][t.length];
-            for (int i = 0; i < t.length; i++) {
-                for (int k = 0; k < t.length; k++) {
-                    if (t[i][k].abs().compareTo(BigInteger.valueOf(999)) > 0) {
-                        return -1;
-                    }
-                    small[i][k] = t[i][k].intValueExact();
-                }
-            }
-            tables.add(small);
-            return tables.size() - 1;
-        }
-
-        /** By all orders of the places. */
-        private static BigInteger determinant(BigInteger[][] t) {
-            if (t.length == 0) {
-                return BigInteger.ONE;
-            }
-            BigInteger total = BigInteger.ZERO;
-            for (int k = 0; k < t.length; k++) {
-                BigInteger part = t[0][k].multiply(determinant(without(t, 0, k)));
-                total = k % 2 == 0 ? total.add(part) : total.subtract(part);
-            }
-            return total;
-        }
-
-        private static BigInteger[][] without(BigInteger[][] t, int line, int place) {
-            BigInteger[][] less = new BigInteger[t.length - 1][t.length - 1];
-            for (int i = 0; i < less.length; i++) {
-                for (int k = 0; k < less.length; k++) {
-                    less[i][k] = t[i < line ? i : i + 1][k < place ? k : k + 1];
-                }
-            }
-            return less;
-        }
-
-        private static BigInteger co(int[][] t, int i, int k) {
-            BigInteger minor = determinant(without(big(t), i, k));
-            return (i + k) % 2 == 0 ? minor : minor.negate();
-        }
-
-        private static long worth(int[][] t) {
-            return determinant(big(t)).longValueExact();
-        }
-
-        private boolean has(int a) {
-            return a >= 0 && a < tables.size();
-        }
-
-        int table(int a, int i, int k) {
-            return has(a) ? of(tables.get(a), i, k) : -100000;
-        }
-
-        private static long meeting(int[][] t, int[] x, int[] y) {
-            long total = 0;
-            for (int i = 0; i < t.length; i++) {
-                for (int k = 0; k < t.length; k++) {
-                    total += (long) x[i] * t[i][k] * y[k];
-                }
-            }
-            return total;
-        }
-
-        /** Numbers v, from low, for which the square of q * v - p times WORTH is not above bound times CO. */
-        private static int[] range(int[][] t, int i, int q, int p, long bound) {
-            BigInteger most = BigInteger.valueOf(bound).multiply(co(t, i, i)).divide(big1(worth(t)));
-            long reach = most.sqrt().longValueExact();
-            long low = (long) Math.floor((double) (p - reach) / q) - 2;
-            while (!inside(low, q, p, most)) {
-                low++;
-            }
-            long high = low;
-            while (inside(high + 1, q, p, most) && high - low < 400000) {
-                high++;
-            }
-            return new int[] {(int) low, (int) high};
-        }
-
-        private static BigInteger big1(long v) {
-            return BigInteger.valueOf(v);
-        }
-
-        private static boolean inside(long v, int q, int p, BigInteger most) {
-            long z = q * v - p;
-            return big1(z).multiply(big1(z)).compareTo(most) <= 0;
-        }
-
-        private static int[][] box(int[][] t, int q, int[] p, long bound) {
-            int[][] box = new int[t.length][];
-            long all = 1;
-            for (int i = 0; i < t.length; i++) {
-                box[i] = range(t, i, q, p[i], bound);
-                all *= box[i][1] - box[i][0] + 1;
-                if (all > 300000) {
-                    return null;
-                }
-            }
-            return box;
-        }
-
-        private static int[] firstOf(int[][] box) {
-            int[] x = new int[box.length];
-            for (int i = 0; i < x.length; i++) {
-                x[i] = box[i][0];
-            }
-            return x;
-        }
-
-        private static boolean next(int[] x, int[][] box) {
-            for (int i = x.length - 1; i >= 0; i--) {
-                if (x[i] < box[i][1]) {
-                    x[i]++;
-                    return true;
-                }
-                x[i] = box[i][0];
-            }
-            return false;
-        }
-
-        /** Rows up to a size in their order, in up; false if spent. */
-        private boolean rowsUpTo(int[][] t, int size) {
-            int[][] box = box(t, 1, new int[4], size);
-            up = new ArrayList<>();
-            if (box == null) {
-                return false;
-            }
-            int[] x = firstOf(box);
-            do {
-                long s = meeting(t, x, x);
-                if (s > 0 && s <= size) {
-                    up.add(x.clone());
-                }
-            } while (up.size() <= 1000 && next(x, box));
-            up.sort((y, z) -> Long.compare(meeting(t, y, y), meeting(t, z, z)));
-            return up.size() <= 1000;
-        }
-
-        int rows(int a, int size) {
-            if (!has(a) || size < 1 || size > 1000000) {
-                return -1;
-            }
-            if (!rowsUpTo(tables.get(a), size)) {
-                return -2;
-            }
-            list = up;
-            listSizes = new ArrayList<>();
-            for (int[] x : list) {
-                listSizes.add(meeting(tables.get(a), x, x));
-            }
-            return list.size();
-        }
-
-        int theta(int a, int size) {
-            if (!has(a) || size < 1 || size > 1000000) {
-                return -1;
-            }
-            if (!rowsUpTo(tables.get(a), size)) {
-                return -2;
-            }
-            int count = 0;
-            for (int[] x : up) {
-                count += meeting(tables.get(a), x, x) == size ? 1 : 0;
-            }
-            return count;
-        }
-
-        int row(int i, int k) {
-            return i < 0 || i >= list.size() || k < 0 || k >= list.get(i).length ? -100000 : list.get(i)[k];
-        }
-
-        long size(int i) {
-            return i < 0 || i >= list.size() ? -1 : listSizes.get(i);
-        }
-
-        long about(int a, int what) {
-            if (!has(a) || what < 0 || what > 6) {
-                return -1;
-            }
-            int[][] t = tables.get(a);
-            int n = t.length;
-            if (what == 0) {
-                return n;
-            }
-            if (what == 1) {
-                return worth(t);
-            }
-            if (what == 2) {
-                boolean even = true;
-                for (int i = 0; i < n; i++) {
-                    even &= t[i][i] % 2 == 0;
-                }
-                return even ? 1 : 0;
-            }
-            if (what == 6) {
-                search(t, t, false);
-                return spent ? -2 : found;
-            }
-            int least = 999;
-            for (int i = 0; i < n; i++) {
-                least = Math.min(least, t[i][i]);
-            }
-            if (!rowsUpTo(t, least)) {
-                return -2;
-            }
-            long min = meeting(t, up.get(0), up.get(0));
-            List<int[]> steps = new ArrayList<>();
-            for (int[] x : up) {
-                if (meeting(t, x, x) == min) {
-                    steps.add(x);
-                }
-            }
-            return what == 3 ? min : what == 4 ? steps.size() : rank(steps, n) == n * (n + 1) / 2 ? 1 : 0;
-        }
-
-        /** Over the fractions, by exact whole numbers. */
-        private static int rank(List<int[]> steps, int n) {
-            int wide = n * n;
-            List<BigInteger[]> lines = new ArrayList<>();
-            for (int[] x : steps) {
-                BigInteger[] line = new BigInteger[wide];
-                for (int i = 0; i < n; i++) {
-                    for (int k = 0; k < n; k++) {
-                        line[i * n + k] = big1((long) x[i] * x[k]);
-                    }
-                }
-                lines.add(line);
-            }
-            int rank = 0;
-            for (int c = 0; c < wide; c++) {
-                int at = -1;
-                for (int r = rank; r < lines.size() && at < 0; r++) {
-                    at = lines.get(r)[c].signum() != 0 ? r : -1;
-                }
-                if (at < 0) {
-                    continue;
-                }
-                BigInteger[] lead = lines.get(at);
-                lines.set(at, lines.get(rank));
-                lines.set(rank, lead);
-                for (int r = rank + 1; r < lines.size(); r++) {
-                    BigInteger[] line = lines.get(r);
-                    BigInteger own = line[c];
-                    for (int k = 0; k < wide; k++) {
-                        line[k] = line[k].multiply(lead[c]).subtract(lead[k].multiply(own));
-                    }
-                }
-                rank++;
-            }
-            return rank;
-        }
-
-        private void search(int[][] a, int[][] b, boolean first) {
-            tries = 0;
-            found = 0;
-            spent = false;
-            foundWay = null;
-            if (worth(a) != worth(b)) {
-                return;
-            }
-            int greatest = 0;
-            for (int i = 0; i < b.length; i++) {
-                greatest = Math.max(greatest, b[i][i]);
-            }
-            if (!rowsUpTo(a, greatest)) {
-                spent = true;
-                return;
-            }
-            search(a, b, first, new int[b.length][], 0);
-        }
-
-        private void search(int[][] a, int[][] b, boolean first, int[][] chosen, int level) {
-            if (level == b.length) {
-                found++;
-                foundWay = foundWay == null ? chosen.clone() : foundWay;
-                return;
-            }
-            for (int[] x : up) {
-                if (spent || first && found > 0) {
-                    return;
-                }
-                if (meeting(a, x, x) != b[level][level]) {
-                    continue;
-                }
-                if (tries == 200000) {
-                    spent = true;
-                    return;
-                }
-                tries++;
-                boolean good = true;
-                for (int i = 0; i < level; i++) {
-                    good &= meeting(a, x, chosen[i]) == b[level][i];
-                }
-                if (good) {
-                    chosen[level] = x;
-                    search(a, b, first, chosen, level + 1);
-                }
-            }
-        }
-
-        int same(int a, int b) {
-            if (!has(a) || !has(b) || tables.get(a).length != tables.get(b).length) {
-                return -1;
-            }
-            search(tables.get(a), tables.get(b), true);
-            if (spent) {
-                return -2;
-            }
-            if (foundWay != null) {
-                way = foundWay;
-            }
-            return found;
-        }
-
-        int way(int i, int k) {
-            return of(way, i, k);
-        }
-
-        long wayWorth() {
-            return way.length == 0 ? 0 : determinant(big(way)).longValueExact();
-        }
-
-        int reduce(int a) {
-            if (!has(a) || tables.size() == 20) {
-                return -1;
-            }
-            int[][] t = tables.get(a);
-            int n = t.length;
-            List<int[]> w = new ArrayList<>();
-            for (int i = 0; i < n; i++) {
-                w.add(new int[n]);
-                w.get(i)[i] = 1;
-            }
-            while (shorten(t, w)) {
-                continue;
-            }
-            w.sort((x, y) -> Long.compare(meeting(t, x, x), meeting(t, y, y)));
-            BigInteger[][] out = new BigInteger[n][n];
-            for (int i = 0; i < n; i++) {
-                for (int k = 0; k < n; k++) {
-                    out[i][k] = big1(meeting(t, w.get(i), w.get(k)));
-                }
-            }
-            int number = add(out);
-            if (number >= 0) {
-                way = w.toArray(new int[0][]);
-            }
-            return number;
-        }
-
-        private static boolean shorten(int[][] t, List<int[]> w) {
-            for (int i = 0; i < w.size(); i++) {
-                for (int k = 0; k < w.size(); k++) {
-                    if (i == k) {
-                        continue;
-                    }
-                    long m = meeting(t, w.get(i), w.get(k));
-                    long s = meeting(t, w.get(k), w.get(k));
-                    long times = Math.abs(m) / s + (2 * (Math.abs(m) % s) > s ? 1 : 0);
-                    times = m < 0 ? -times : times;
-                    int[] less = w.get(i).clone();
-                    for (int j = 0; j < less.length; j++) {
-                        less[j] -= (int) times * w.get(k)[j];
-                    }
-                    if (meeting(t, less, less) < meeting(t, w.get(i), w.get(i))) {
-                        w.set(i, less);
-                        return true;
-                    }
-                }
-            }
-            return false;
-        }
-
-        int dual(int a) {
-            if (!has(a) || tables.size() == 20) {
-                return -1;
-            }
-            int[][] t = tables.get(a);
-            BigInteger[][] out = new BigInteger[t.length][t.length];
-            for (int i = 0; i < t.length; i++) {
-                for (int k = 0; k < t.length; k++) {
-                    out[i][k] = co(t, i, k);
-                }
-            }
-            return add(out);
-        }
-
-        int sum(int a, int b) {
-            if (!has(a) || !has(b) || tables.size() == 20 || tables.get(a).length + tables.get(b).length > 4) {
-                return -1;
-            }
-            int[][] s = tables.get(a);
-            int[][] t = tables.get(b);
-            int[][] out = new int[s.length + t.length][s.length + t.length];
-            for (int i = 0; i < out.length; i++) {
-                for (int k = 0; k < out.length; k++) {
-                    if (i < s.length && k < s.length) {
-                        out[i][k] = s[i][k];
-                    } else if (i >= s.length && k >= s.length) {
-                        out[i][k] = t[i - s.length][k - s.length];
-                    }
-                }
-            }
-            return add(big(out));
-        }
-
-        int scale(int a, int by) {
-            if (!has(a) || tables.size() == 20 || by < 1 || by > 999) {
-                return -1;
-            }
-            BigInteger[][] out = big(tables.get(a));
-            for (BigInteger[] line : out) {
-                for (int k = 0; k < line.length; k++) {
-                    line[k] = line[k].multiply(big1(by));
-                }
-            }
-            return add(out);
-        }
-
-        int within(int a) {
-            if (!has(a) || tables.size() == 20 || tables.get(a).length != sheet.length || index() == 0) {
-                return -1;
-            }
-            BigInteger[][] out = new BigInteger[sheet.length][sheet.length];
-            for (int i = 0; i < sheet.length; i++) {
-                for (int k = 0; k < sheet.length; k++) {
-                    out[i][k] = big1(meeting(tables.get(a), sheet[i], sheet[k]));
-                }
-            }
-            return add(out);
-        }
-
-        long index() {
-            return determinant(big(sheet)).abs().longValueExact();
-        }
-
-        int denser(int a, int b) {
-            if (!has(a) || !has(b) || tables.get(a).length != tables.get(b).length) {
-                return -3;
-            }
-            long first = about(a, 3);
-            long second = about(b, 3);
-            if (first == -2 || second == -2) {
-                return -2;
-            }
-            int n = tables.get(a).length;
-            return big1(first).pow(n).multiply(big1(worth(tables.get(b))))
-                .compareTo(big1(second).pow(n).multiply(big1(worth(tables.get(a)))));
-        }
-
-        int nearest(int a, int q, int[] p) {
-            if (!has(a) || q < 1 || q > 60) {
-                return -1;
-            }
-            int[][] t = tables.get(a);
-            int[] rounded = new int[t.length];
-            for (int i = 0; i < t.length; i++) {
-                if (p[i] < -6000 || p[i] > 6000) {
-                    return -1;
-                }
-                int r = Math.floorDiv(p[i], q);
-                r += 2 * (p[i] - q * r) >= q ? 1 : 0;
-                rounded[i] = q * r - p[i];
-            }
-            int[][] box = box(t, q, p, meeting(t, rounded, rounded));
-            if (box == null) {
-                return -2;
-            }
-            long best = Long.MAX_VALUE;
-            List<int[]> near = new ArrayList<>();
-            int[] x = firstOf(box);
-            int[] z = new int[t.length];
-            do {
-                for (int i = 0; i < z.length; i++) {
-                    z[i] = q * x[i] - p[i];
-                }
-                long s = meeting(t, z, z);
-                if (s < best) {
-                    best = s;
-                    near.clear();
-                }
-                if (s == best) {
-                    near.add(x.clone());
-                }
-            } while (next(x, box));
-            if (near.size() > 100) {
-                return -2;
-            }
-            list = near;
-            listSizes = new ArrayList<>();
-            for (int i = 0; i < near.size(); i++) {
-                listSizes.add(best);
-            }
-            return list.size();
-        }
-
-        int told(int what) {
-            return what == 0 ? tables.size() : what == 1 ? sheet.length : what == 2 ? list.size()
-                : what == 3 ? way.length : -1;
         }
     }
 }
