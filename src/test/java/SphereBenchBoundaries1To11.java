@@ -372,7 +372,7 @@ public final class SphereBenchBoundaries1To11 {
         dueFacts(x, 1, 4, 10, 0, -2, -2, -2);
     }
 
-    /** Wherever the least number stands; ROWS up to another number across would be SPENT. */
+    /** Wherever the least number stands; of the last tables ROWS up to any other number across are SPENT. */
     private static void aboutByTheLeastNumber() {
         int[][] first = {{1, 0, 0}, {0, 999, 0}, {0, 0, 998}};
         int[][] second = {{999, 0, 0}, {0, 1, 0}, {0, 0, 998}};
@@ -383,6 +383,12 @@ public final class SphereBenchBoundaries1To11 {
         for (int a = 0; a < 5; a++) {
             Checks.due("about(" + a + ", 3)", x.about(a, 3), 1);
             Checks.due("about(" + a + ", 4)", x.about(a, 4), a == 4 ? 4 : 2);
+        }
+        for (int at = 0; at < 4; at++) {
+            int[][] table = Tables.withShortLine(at);
+            Bench y = Checks.bench(table);
+            Checks.due("ROWS up to 14 are SPENT", y.rows(0, 14), -2);
+            dueFacts(y, 0, 4, 1, 0, 1, 8, 0);
         }
     }
 

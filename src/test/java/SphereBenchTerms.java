@@ -30,6 +30,7 @@ public final class SphereBenchTerms {
         Checks.test("I: MIN is the least SIZE of a ROW that isn't noughts", SphereBenchTerms::minFromLeastToGreatest);
         Checks.test("I: STEPS are the ROWS of that SIZE, KISS how many", SphereBenchTerms::kissFromLeastToGreatest);
         Checks.test("I: LINES of a TABLE stand for the ROWS 1 0 .., 0 1 0 ..", SphereBenchTerms::linesAreRows);
+        Checks.test("I: THE SHEET: 1 to 4 lines of as many whole numbers, -999 to 999", SphereBenchTerms::sheets);
         Checks.test("I: A WAY from a to b: n ROWS of a, MEETING as b's TABLE", SphereBenchTerms::waysLeadFromAToB);
     }
 
@@ -40,6 +41,7 @@ public final class SphereBenchTerms {
         Checks.test("II: of like ones by their numbers, the lower first", SphereBenchTerms::lowerNumbersFirst);
         Checks.test("II: THE BOX: .. not above s times CO(i, i): just as much", SphereBenchTerms::boxHasItsEdge);
         Checks.test("II: THE BOX: .. not above s times CO(i, i): 1 above", SphereBenchTerms::boxEndsBehindItsEdge);
+        Checks.test("II: THE BOX: .. it has all of them", SphereBenchTerms::boxHasAllRows);
         Checks.test("II: SPENT: THE BOX has more than 300,000 ROWS", SphereBenchTerms::boxUpTo300000);
         Checks.test("II: SPENT: more than 1,000 ROWS up to the SIZE", SphereBenchTerms::rowsUpTo1000);
     }
@@ -50,6 +52,7 @@ public final class SphereBenchTerms {
         Checks.test("II: REDUCED: i not k", SphereBenchTerms::oneRowHasNoPair);
         Checks.test("II: REDUCED: t the whole number nearest to MEETING by SIZE", SphereBenchTerms::nearestTimes);
         Checks.test("II: REDUCED: a half towards 0", SphereBenchTerms::halfTowardsNought);
+        Checks.test("II: REDUCED: until there is none", SphereBenchTerms::reducedToTheEnd);
         Checks.test("II: REDUCED: by SIZES, the shorter ROWS first", SphereBenchTerms::reducedBySizes);
         Checks.test("II: REDUCED: of like ones as they stand", SphereBenchTerms::likeOnesAsTheyStand);
     }
@@ -252,6 +255,23 @@ public final class SphereBenchTerms {
         Checks.dueTable(x, 2, new int[][] {{8, 3, -2, 2}, {3, 5, 2, -1}, {-2, 2, 6, 1}, {2, -1, 1, 7}});
     }
 
+    private static void sheets() {
+        Bench x = new Bench();
+        for (int n = 1; n <= 4; n++) {
+            Checks.due("sheet(" + n + ")", x.sheet(n), true);
+            Checks.due("999 at the last of " + n, x.cell(n - 1, n - 1, 999), true);
+            Checks.due("-999 at the first of " + n, x.cell(0, 0, -999), true);
+            Checks.due("1000", x.cell(n - 1, n - 1, 1000), false);
+            Checks.due("-1000", x.cell(0, 0, -1000), false);
+            Checks.due("a line more than " + n, x.cell(n, 0, 1), false);
+            Checks.due("a number more than " + n, x.cell(0, n, 1), false);
+            Checks.due("cellOf(0, 0)", x.cellOf(0, 0), -999);
+            Checks.due("cellOf(n - 1, n - 1)", x.cellOf(n - 1, n - 1), n == 1 ? -999 : 999);
+        }
+        Checks.due("sheet(0)", x.sheet(0), false);
+        Checks.due("sheet(5)", x.sheet(5), false);
+    }
+
     private static void waysLeadFromAToB() {
         Bench x = Checks.bench(Tables.SQUARE, Tables.BENT);
         Checks.due("same(0, 1)", x.same(0, 1), 1);
@@ -362,6 +382,18 @@ public final class SphereBenchTerms {
         Bench x = Checks.bench(table);
         Checks.due("the model's box", Model.boxUpTo(table, size), box);
         Checks.due("rows(0, " + size + ")", x.rows(0, size), rows);
+    }
+
+    /** The same lattices by long and by short lines have as many ROWS up to each SIZE. */
+    private static void boxHasAllRows() {
+        Bench x = Checks.bench(Tables.SQUARE, Tables.BENT, Tables.CUBE4, Tables.withLongLine(1));
+        for (int size = 1; size <= 316; size += 9) {
+            Checks.due("rows(1, " + size + ")", x.rows(1, size), x.rows(0, size));
+        }
+        for (int size = 1; size <= 13; size++) {
+            Checks.due("rows(3, " + size + ")", x.rows(3, size), x.rows(2, size));
+            Checks.due("theta(3, " + size + ")", x.theta(3, size), x.theta(2, size));
+        }
     }
 
     /** A box has an odd number of ROWS, noughts among them; no example of just 299,999 was found, but of 299,997. */
@@ -481,6 +513,18 @@ public final class SphereBenchTerms {
         Checks.dueTable(x, 1, new int[][] {{size, rest}, {rest, 950 - 2 * times * meeting + times * times * size}});
     }
 
+    private static void reducedToTheEnd() {
+        int[][] bent = {{61, -15, 44}, {-15, 77, -42}, {44, -42, 45}};
+        int[][] deep = {{37, -30, 27, -10}, {-30, 65, 10, 12}, {27, 10, 50, -15}, {-10, 12, -15, 25}};
+        Bench x = Checks.bench(Tables.MORE_BENT, bent, deep);
+        for (int a = 0; a < 3; a++) {
+            int reduced = x.reduce(a);
+            Checks.due("reduce(" + a + ")", reduced, 3 + 2 * a);
+            Checks.due("REDUCED again", x.reduce(reduced), reduced + 1);
+            Checks.dueWay(x, Tables.OF_WAYS[a + 1]);
+        }
+    }
+
     private static void reducedBySizes() {
         Bench x = Checks.bench(new int[][] {{4, 0, 0, 0}, {0, 3, 0, 0}, {0, 0, 2, 0}, {0, 0, 0, 1}},
             new int[][] {{3, 0}, {0, 2}}, new int[][] {{2, 0}, {0, 3}});
@@ -538,6 +582,13 @@ public final class SphereBenchTerms {
             Checks.due("same(3, " + b + ")", x.same(3, b), 1);
         }
         Checks.dueMeetings(x, Tables.CUBE, longThird);
+        for (int at = 0; at < 4; at++) {
+            int[][] table = Tables.withLongLine(at);
+            Bench y = Checks.bench(Tables.CUBE4, table);
+            Checks.due("10 at " + at, y.same(0, 1), 1);
+            Checks.dueMeetings(y, Tables.CUBE4, table);
+            Checks.due("10 at " + at, y.about(1, 6), 384);
+        }
     }
 
     /** Nothing is tried: also where ROWS, or TRIES, would be SPENT. */
@@ -591,9 +642,13 @@ public final class SphereBenchTerms {
         Checks.dueMeetings(x, a, just);
     }
 
+    /** No example of just 200,000 was found, but of 199,998. */
     private static void triesOfTurns() {
+        int[][] under = {{16, 4, -2, -13}, {4, 14, -14, 1}, {-2, -14, 16, -3}, {-13, 1, -3, 12}};
         int[][] over = {{22, 18, 20, 6}, {18, 22, 14, 9}, {20, 14, 20, 4}, {6, 9, 4, 4}};
-        Bench x = Checks.bench(over);
+        Bench x = Checks.bench(over, under);
+        Checks.due("the model's TRIES", Model.triesOf(under, under, false), 199998);
+        Checks.due("TURNS by 199,998 TRIES", x.about(1, 6), 96);
         Checks.due("the model's TRIES", Model.triesOf(over, over, false), 200004);
         Checks.due("TURNS by 200,004 TRIES", x.about(0, 6), -2);
     }
@@ -732,6 +787,7 @@ public final class SphereBenchTerms {
             300000, 1, -1, -1, -1);
         dueNear(new int[][] {{2, -13, 28}, {-13, 98, -133}, {28, -133, 570}}, 5, 300001, 2, -1, -5);
         dueNear(new int[][] {{100, 14, 175}, {14, 2, 26}, {175, 26, 364}}, 5, 300001, -5, -1, -2);
+        dueNear(new int[][] {{569, -741, 0}, {-741, 965, 0}, {0, 0, 1}}, 7, 41 * 300000, -5, -3, 0);
     }
 
     /** No place has more than 2 ^ n ROWS that are NEAREST, so there are never more than 16, far from 100. */

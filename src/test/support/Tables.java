@@ -22,6 +22,30 @@ final class Tables {
     private Tables() {
     }
 
+    /** CUBE4 by lines of which one is of SIZE 10, the others of SIZE 1. */
+    static int[][] withLongLine(int at) {
+        int[][] table = {{10, 3, 0, 0}, {3, 1, 0, 0}, {0, 0, 1, 0}, {0, 0, 0, 1}};
+        return turned(table, at);
+    }
+
+    /** CUBE4 by lines of which one is of SIZE 1, the others of 14 and more. */
+    static int[][] withShortLine(int at) {
+        int[][] table = {{1, 0, 0, 0}, {0, 14, 14, 31}, {0, 14, 17, 35}, {0, 31, 35, 74}};
+        return turned(table, at);
+    }
+
+    /** The same lattice, its lines told from another one on: the first stands at a place. */
+    private static int[][] turned(int[][] table, int at) {
+        int n = table.length;
+        int[][] out = new int[n][n];
+        for (int i = 0; i < n; i++) {
+            for (int k = 0; k < n; k++) {
+                out[(i + at) % n][(k + at) % n] = table[i][k];
+            }
+        }
+        return out;
+    }
+
     /** Four lattices, a LIST of two ROWS, a WAY and a sheet of two lines: something that a wrong call could change. */
     static Bench busy() {
         Bench x = Checks.bench(HEXAGON, new int[][] {{7}}, BENT);
