@@ -43,6 +43,7 @@ public final class SphereBenchTerms {
         Checks.test("II: THE BOX: .. not above s times CO(i, i): 1 above", SphereBenchTerms::boxEndsBehindItsEdge);
         Checks.test("II: THE BOX: .. it has all of them", SphereBenchTerms::boxHasAllRows);
         Checks.test("II: SPENT: THE BOX has more than 300,000 ROWS", SphereBenchTerms::boxUpTo300000);
+        Checks.test("II: SPENT: THE BOX has more than 300,000 ROWS: far more", SphereBenchTerms::boxBeyondALong);
         Checks.test("II: SPENT: more than 1,000 ROWS up to the SIZE", SphereBenchTerms::rowsUpTo1000);
     }
 
@@ -406,6 +407,15 @@ public final class SphereBenchTerms {
         dueTooWide(new int[][] {{2, 22, 27}, {22, 284, 309}, {27, 309, 368}}, 40, 452);
         dueTooWide(new int[][] {{62, -115, -13, -102}, {-115, 324, 25, 166}, {-13, 25, 3, 24}, {-102, 166, 24, 202}},
             3, 18);
+    }
+
+    /** The box has 15,664,563,985,639,023,675 ROWS, which as a long would be below 0. */
+    private static void boxBeyondALong() {
+        int[][] table = {{58, 29, 20, 5}, {29, 57, -68, 27}, {20, -68, 157, -45}, {5, 27, -45, 15}};
+        Bench x = Checks.bench(table);
+        Checks.due("rows(0, 1000000)", x.rows(0, 1000000), -2);
+        Checks.due("theta(0, 1000000)", x.theta(0, 1000000), -2);
+        Checks.due("a few ROWS, by a shorter table", x.rows(x.reduce(0), 1), 8);
     }
 
     private static void dueTooWide(int[][] table, int size, int rows) {

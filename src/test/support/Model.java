@@ -175,10 +175,11 @@ final class Model {
         return rowsOf(box) > 300000 ? null : box;
     }
 
+    /** Up to a billion; a wider box has no more, as four wide places would go beyond a long. */
     private static long rowsOf(int[][] box) {
         long all = 1;
         for (int[] range : box) {
-            all *= range[1] - range[0] + 1;
+            all = Math.min(1000000000L, all * (range[1] - range[0] + 1));
         }
         return all;
     }
